@@ -16,6 +16,11 @@ public final class BlueBag {
     private static final int MOST_RINSE = 20;
     private static final int MOST_BOUND = 99;
     private static final int MOST_DYE = 30;
+    private static final int START_WIDE = 3;
+    private static final int START_HIGH = 3;
+    private static final int START_KNOBS = 20;
+    private static final int START_RINSE = 2;
+    private static final int START_BOUND = 60;
     private static final int MOST_MARTINS = 9999;
     private static final int MOST_DAY = 999;
     private static final int MOST_DAYS_BY = 20;
@@ -28,6 +33,11 @@ public final class BlueBag {
     private static final int MOST_SEEN_DAYS = 20;
     private static final int LOOK_DAYS = 5;
     private static final int TOO_FEW_GIRLS = -2;
+    private static final int DRAWS_AHEAD = 5;
+    private static final int DRAWN_BLUE = 20;
+    private static final int DRAWN_KNOBS = 5;
+    /** More than any unevenness or any number of steps. */
+    private static final int ABOVE_ALL = 1000000;
 
     private static final int REFUSED_TEXTS = 0;
     private static final int REFUSED_ACTS = 1;
@@ -134,7 +144,7 @@ public final class BlueBag {
     public int days(int many) {
         if (many < 1 || many > MOST_DAYS_BY || many > MOST_DAY - present.sky.day) return refuseAct();
         present.keepAct();
-        passDays(present.sky, many);
+        for (int d = 0; d < many; d++) present.sky.passDay();
         return present.sky.day;
     }
 
@@ -296,7 +306,7 @@ public final class BlueBag {
     public int nearest(int cell) throws NoSuchElementException {
         needCell(cell);
         int best = NONE;
-        int least = Integer.MAX_VALUE;
+        int least = ABOVE_ALL;
         for (int g = 0; g < coast.girls; g++) {
             int far = coast.stepsBetween(present.sky.spotOf(g), cell);
             if (far < least) {
@@ -330,7 +340,7 @@ public final class BlueBag {
         needGirl(girl);
         needWhat(what, 1);
         int best = 0;
-        int least = Integer.MAX_VALUE;
+        int least = ABOVE_ALL;
         for (int c = 0; c < coast.cells(); c++) {
             lookAhead(0);
             trial.setSpot(girl, c);
@@ -503,11 +513,7 @@ public final class BlueBag {
 
     private void lookAhead(int days) {
         trial.copyFrom(present.sky);
-        passDays(trial, days);
-    }
-
-    private void passDays(Sky sky, int days) {
-        for (int d = 0; d < days; d++) sky.passDay();
+        for (int d = 0; d < days; d++) trial.passDay();
     }
 
     private void lookAheadIfResting(int girl, boolean is) {
@@ -537,7 +543,7 @@ public final class BlueBag {
     private void gatherBlues(int girl, int skill) {
         trial.copyFrom(present.sky);
         trial.setSkill(girl, skill);
-        passDays(trial, LOOK_DAYS);
+        for (int d = 0; d < LOOK_DAYS; d++) trial.passDay();
         for (int c = 0; c < MOST_CELLS; c++) {
             int blue = trial.blueOf(c);
             if (blue < 64) {
@@ -573,9 +579,9 @@ public final class BlueBag {
     }
 
     private void drawAhead() {
-        switch (dice.draw(5)) {
+        switch (dice.draw(DRAWS_AHEAD)) {
             case 0:
-                trial.addBlue(dice.draw(coast.cells()), 20);
+                trial.addBlue(dice.draw(coast.cells()), DRAWN_BLUE);
                 break;
             case 1:
                 if (coast.girls > 0) {
@@ -584,7 +590,7 @@ public final class BlueBag {
                 }
                 break;
             case 2:
-                trial.addKnobs(5);
+                trial.addKnobs(DRAWN_KNOBS);
                 break;
             default:
                 break;
@@ -809,11 +815,10 @@ public final class BlueBag {
             this.rule = rule;
         }
 
-        boolean read(Rule into, boolean dyes) {
+        void begin(Rule into, boolean dyes) {
             rule = into;
             isOfDyes = dyes;
             rule.clear();
-            return readExpr(0);
         }
 
         private boolean readExpr(int within) {
@@ -914,29 +919,47 @@ public final class BlueBag {
 
     /** What a text tells and no act changes. */
     private static final class Coast {
-        private int wide = 3;
-        private int high = 3;
-        private int rinse = 2;
-        private int bound = 60;
+        private int wide;
+        private int high;
+        private int rinse;
+        private int bound;
         private int girls;
         private int olds;
+        private final int[] beside = new int[MOST_CELLS];
         private final Rule dyes = new Rule();
         private final Rule fades = new Rule();
 
+        Coast() {
+            begin();
+        }
+
         void begin() {
-            wide = 3;
-            high = 3;
-            rinse = 2;
-            bound = 60;
+            shape(START_WIDE, START_HIGH);
+            rinse = START_RINSE;
+            bound = START_BOUND;
             girls = 0;
             olds = 0;
             dyes.clear();
             fades.clear();
         }
 
+        void shape(int cellsWide, int cellsHigh) {
+            wide = cellsWide;
+            high = cellsHigh;
+            for (int c = 0; c < MOST_CELLS; c++) beside[c] = c < cells() ? bitsBeside(c) : 0;
+        }
+
+        private int bitsBeside(int c) {
+            int bits = 0;
+            if (c >= wide) bits |= 1 << (c - wide);
+            if (c + wide < cells()) bits |= 1 << (c + wide);
+            if (columnOf(c) > 0) bits |= 1 << (c - 1);
+            if (columnOf(c) < wide - 1) bits |= 1 << (c + 1);
+            return bits;
+        }
+
         void copyFrom(Coast other) {
-            wide = other.wide;
-            high = other.high;
+            shape(other.wide, other.high);
             rinse = other.rinse;
             bound = other.bound;
             girls = other.girls;
@@ -962,12 +985,7 @@ public final class BlueBag {
         }
 
         int besideBits(int c) {
-            int bits = 0;
-            if (c - wide >= 0) bits |= 1 << (c - wide);
-            if (c + wide < cells()) bits |= 1 << (c + wide);
-            if (columnOf(c) > 0) bits |= 1 << (c - 1);
-            if (columnOf(c) < wide - 1) bits |= 1 << (c + 1);
-            return bits;
+            return c >= 0 && c < MOST_CELLS ? beside[c] : 0;
         }
 
         int stepsBetween(int from, int to) {
@@ -989,13 +1007,14 @@ public final class BlueBag {
         private final int[] values = new int[Rule.VALUES];
         private int pegs;
         private int resting;
-        private int knobs = 20;
+        private int knobs;
         private int martins;
         private int day;
         private int overdone;
 
         Sky(Coast coast) {
             this.coast = coast;
+            begin();
         }
 
         void begin() {
@@ -1006,7 +1025,7 @@ public final class BlueBag {
             }
             pegs = 0;
             resting = 0;
-            knobs = 20;
+            knobs = START_KNOBS;
             martins = 0;
             day = 0;
             overdone = 0;
@@ -1028,24 +1047,24 @@ public final class BlueBag {
             if (at < 0 || at > rows.length - ROW) return;
             System.arraycopy(blue, 0, rows, at, MOST_CELLS);
             System.arraycopy(spot, 0, rows, at + MOST_CELLS, MOST_GIRLS);
-            int rest = at + MOST_CELLS + MOST_GIRLS;
-            rows[rest] = pegs;
-            rows[rest + 1] = resting;
-            rows[rest + 2] = knobs;
-            rows[rest + 3] = martins;
-            rows[rest + 4] = day;
+            int tail = at + MOST_CELLS + MOST_GIRLS;
+            rows[tail] = pegs;
+            rows[tail + 1] = resting;
+            rows[tail + 2] = knobs;
+            rows[tail + 3] = martins;
+            rows[tail + 4] = day;
         }
 
         void load(int[] rows, int at) {
             if (at < 0 || at > rows.length - ROW) return;
             System.arraycopy(rows, at, blue, 0, MOST_CELLS);
             System.arraycopy(rows, at + MOST_CELLS, spot, 0, MOST_GIRLS);
-            int rest = at + MOST_CELLS + MOST_GIRLS;
-            pegs = rows[rest];
-            resting = rows[rest + 1];
-            knobs = rows[rest + 2];
-            martins = rows[rest + 3];
-            day = rows[rest + 4];
+            int tail = at + MOST_CELLS + MOST_GIRLS;
+            pegs = rows[tail];
+            resting = rows[tail + 1];
+            knobs = rows[tail + 2];
+            martins = rows[tail + 3];
+            day = rows[tail + 4];
         }
 
         int blueOf(int c) {
@@ -1168,19 +1187,15 @@ public final class BlueBag {
         }
 
         private void setValues(int c) {
-            values[Rule.BLUE] = blueOf(c);
-            values[Rule.BESIDE] = besideBlue(c);
-            values[Rule.ROW] = coast.rowOf(c);
-            values[Rule.DAY] = day;
-        }
-
-        private int besideBlue(int c) {
             int beside = coast.besideBits(c);
             int sum = 0;
             for (int n = 0; n < MOST_CELLS; n++) {
                 if ((beside >> n & 1) != 0) sum += blue[n];
             }
-            return sum;
+            values[Rule.BLUE] = blueOf(c);
+            values[Rule.BESIDE] = sum;
+            values[Rule.ROW] = coast.rowOf(c);
+            values[Rule.DAY] = day;
         }
 
         int allBlue() {
@@ -1332,8 +1347,7 @@ public final class BlueBag {
             if (wide == NONE) return false;
             int high = readNumber(1, MOST_HIGH);
             if (high == NONE) return false;
-            draft.wide = wide;
-            draft.high = high;
+            draft.shape(wide, high);
             return tokens.passes(';');
         }
 
@@ -1402,7 +1416,8 @@ public final class BlueBag {
 
         private boolean readRule(int line, Rule rule) {
             if (!passesOnce(line)) return false;
-            return rules.read(rule, line == DYES) && tokens.passes(';');
+            rules.begin(rule, line == DYES);
+            return rules.readExpr(0) && tokens.passes(';');
         }
 
         /** Goes over the first word of a line that may stand but once. */
@@ -1559,7 +1574,7 @@ public final class BlueBag {
                 }
             }
             if (many > sky.coast.girls) return false;
-            least = Integer.MAX_VALUE;
+            least = ABOVE_ALL;
             fill(0, 0, 0);
             return true;
         }
