@@ -46,6 +46,7 @@ public final class DayTest {
         DUE.is("P6 no girl at a cell", 0, () -> x.cell(1, 2));
         DUE.is("P6 the third girl", 4, () -> x.cell(0, 2));
         DUE.is("P6 a patch by 0", 0b01110111, () -> x.cell(0, 3));
+        DUE.is("P6 a patch by 0, not by 1", 1, () -> Due.told("sky 2 1;blue 0 1;").cell(0, 3));
         DUE.is("P6 a patch of one", 1 << 7, () -> x.cell(7, 3));
         DUE.noSuch("P6 cell(-1, 0)", () -> x.cell(-1, 0));
         DUE.noSuch("P6 cell(8, 0)", () -> x.cell(8, 0));

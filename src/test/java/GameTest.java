@@ -20,6 +20,8 @@ public final class GameTest {
         // 10 less for an overdone cell, whoever did it
         rest(4, 0, "sky 2 1;" + STILL + "dyes 12;bound 11;old 0 0;old 0 1;");
         rest(1, 0, "sky 2 1;" + STILL + "dyes 11;bound 10;old 0 0;old 0 1;");
+        // 49 by doing it, 50 by resting
+        rest(1, 0, "sky 2 1;" + STILL + "blue 0 50;blue 1 50;dyes 1;old 0 0;old 0 1;");
         // only the first gains
         rest(1, 10, "sky 2 1;" + STILL + "dyes skill;old 3 0;old 1 1;");
         rest(1, 1, "sky 2 1;" + STILL + "dyes skill;old 1 0;old 3 1;");
@@ -72,6 +74,10 @@ public final class GameTest {
         skies(girls, 5, 10, 16, 120, 0);
         skies(girls, -7, 10, 10, 60, 0);
         skies(girls, Integer.MAX_VALUE, 10, 5, 60, 0);
+        String girl = "sky 4 1;" + STILL + "bound 15;knobs 10;old 0 2;";
+        skies(girl, 5, 20, 41, 162, 5);
+        skies(girl, -7, 20, 15, 100, 0);
+        skies(girl, 123456789, 20, 45, 140, 15);
         BlueBag x = Due.told(few);
         DUE.noSuch("P37 what 3", () -> x.skies(0, 0, 3));
         DUE.noSuch("P37 what -1, ahead", () -> x.skies(0, 41, -1));

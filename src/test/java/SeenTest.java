@@ -92,8 +92,18 @@ public final class SeenTest {
         BlueBag y = Due.told("sky 2 1;rinse 0;fades 0;old 9 1;blue 1 10;");
         DUE.is("P34 the skill that she has is none of these", 9, () -> y.look(1));
         BlueBag z = Due.told("sky 2 1;rinse 0;fades 0;old 9 1;blue 1 30;");
+        // 64 by skill 9, 0 by all others
+        BlueBag w = Due.told("sky 1 1;rinse 0;blue 0 40;knobs 1;old 5 0;dyes skill/9*24;fades (blue<64)*99;");
+        DUE.is("P34 0 and 64 are unlike", 2, () -> w.look(1));
+        BlueBag v = Due.told("sky 1 1;rinse 0;blue 0 40;knobs 1;old 5 0;dyes skill/9*23;fades (blue<63)*99;");
+        DUE.is("P34 0 and 63 are unlike", 2, () -> v.look(1));
         // 30 and 15, 25, 35, 45, 55, 65; from 75 on 99
         DUE.is("P34 99 at most are alike", 7, () -> z.look(1));
+        BlueBag two = Due.told("sky 2 1;rinse 0;fades 0;old 9 0;old 5 1;");
+        two.see(1, 1, 13);
+        // the first one's skills 0 to 8 give 15 to 95, and the second one's 13 a day is 65 by all of them
+        DUE.is("P34 each from the sky of now", 0, () -> two.look(0));
+        DUE.is("P34 each from the sky of now", 9, () -> two.look(1));
     }
 
     public static void main(String[] args) {

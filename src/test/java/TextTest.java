@@ -75,6 +75,28 @@ public final class TextTest {
         DUE.is("P3 the image is gone", 0, () -> x.restore() ? 1 : 0);
     }
 
+    private static void again(BlueBag x, String want, String text) {
+        Due.feed(x, text);
+        String got = x.coast(text.length()) + " " + x.fault();
+        DUE.like("P3 on one object, coast() and fault() of: " + text, want, got);
+    }
+
+    /** What one text told, or left half told, does not count for the next one. */
+    private static void textBehindText() {
+        BlueBag x = new BlueBag();
+        again(x, "0 -1", "sky 2 2;blue 0 9;old 1 1;peg 2;knobs 7;rinse 1;bound 8;dyes 4;fades 0;");
+        again(x, "0 -1", "sky 2 2;blue 0 9;old 1 1;peg 2;knobs 7;rinse 1;bound 8;dyes 4;fades 0;");
+        again(x, "1 43", "sky 2 2;blue 0 9;old 1 1;peg 2;dyes 4;fades");
+        again(x, "0 -1", "blue 8 9;girl 1 1;peg 7;");
+        DUE.is("P3 no 'old' is left", 0, () -> x.girl(0, 2));
+        DUE.is("P3 no PEG is left", 1 << 7, () -> x.count(8));
+        DUE.is("P3 no DYES are left", 5, () -> x.girl(0, 3));
+        DUE.is("P3 no FADES are left", 6, () -> x.then(8, 1));
+        again(x, "0 -1", "");
+        DUE.is("P3 no girls are left", 0, () -> x.count(2));
+        DUE.is("P3 no BLUE is left", 0, () -> x.count(10));
+    }
+
     private static void linesAndNumbers() {
         good("");
         good(" \n  ");
@@ -161,6 +183,13 @@ public final class TextTest {
         fault("3 5", "dyes foo;");
         fault("3 5", "dyes and;");
         fault("3 5", "dyes sky;");
+        fault("3 5", "dyes z;");
+        fault("3 5", "dyes a;");
+        fault("3 5", "dyes bluez;");
+        fault("1 5", "dyes {;");
+        fault("1 5", "dyes `;");
+        fault("1 5", "dyes :;");
+        fault("1 9", "dyes 1 + /;");
         good("dyes blue+beside+row+day+skill+left;fades blue+beside+row+day;");
         fault("3 6", "fades skill;");
         fault("3 6", "fades left;");
@@ -283,6 +312,7 @@ public final class TextTest {
     public static void main(String[] args) {
         tape();
         anew();
+        textBehindText();
         linesAndNumbers();
         onceOnly();
         exprs();
