@@ -102,4 +102,19 @@ final class Due {
         for (int c = 0; c < x.count(0); c++) row.append(c == 0 ? "" : ",").append(x.cell(c, 0));
         return row.toString();
     }
+
+    /** All that count(), cell() and girl() tell, to see what a call changed. */
+    static String state(BlueBag x) {
+        StringBuilder all = new StringBuilder("counts");
+        for (int what = 0; what <= 16; what++) all.append(' ').append(what).append(':').append(x.count(what));
+        all.append(" cells");
+        for (int c = 0; c < x.count(0); c++) {
+            for (int what = 0; what <= 3; what++) all.append(what == 0 ? ' ' : '/').append(x.cell(c, what));
+        }
+        all.append(" girls");
+        for (int g = 0; g < x.count(2); g++) {
+            for (int what = 0; what <= 3; what++) all.append(what == 0 ? ' ' : '/').append(x.girl(g, what));
+        }
+        return all.toString();
+    }
 }
