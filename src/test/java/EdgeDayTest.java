@@ -336,7 +336,10 @@ public final class EdgeDayTest {
         x.forget();
         DUE.is("P39 40 ACTS and 8 SEEN", 1, () -> flag(x.restore()));
         DUE.like("P39 40 ACTS and 8 SEEN", kept, Due.state(x));
-        DUE.is("P39 all of the 40", 1, () -> undone(x, 40));
+        for (int i = 40; i >= 1; i--) {
+            int left = i;
+            DUE.is("P39 each of the 40", left, () -> undone(x, 1));
+        }
         DUE.is("P39 no more", -1, x::undo);
         x.restore();
         DUE.is("P32 'NONE: there are 8', as in the image", -1, () -> x.see(0, 0, 0));
