@@ -186,6 +186,72 @@ public final class EdgeTextTest {
         }
     }
 
+    /** A byte that no TOKEN has, wherever another TOKEN might stand. */
+    private static void noTokens() {
+        String s = "'1 a TOKEN that .. is none'";
+        for (char b = 0; b < 256; b++) {
+            boolean isOne = b >= 'a' && b <= 'z' || b >= '0' && b <= '9' || ";()+-*/<=".indexOf(b) >= 0;
+            if (isOne || b == ' ' || b == '\n') continue;
+            String where = s + " byte " + (int) b;
+            fault(where, "1 0", b + "knobs 5;");
+            fault(where, "1 6", "knobs " + b + ";");
+            fault(where, "1 7", "knobs 5" + b + ";");
+            fault(where, "1 5", "dyes " + b + ";");
+            fault(where, "1 6", "dyes 1" + b + "1;");
+            fault(where, "1 6", "peg 0 " + b + ";");
+            fault(where, "1 8", "knobs 5;" + b);
+        }
+    }
+
+    /** A word that differs in one letter, wherever that is, or is one longer or shorter, is another word. */
+    private static void otherWords() {
+        String s = "'a TOKEN that can't stand there'";
+        String[] lines = {"sky 3 3;", "blue 0 1;", "girl 1 1;", "old 1 1;", "peg 0;", "knobs 1;", "rinse 1;", "bound 1;",
+            "dyes 1;", "fades 1;"};
+        for (String line : lines) {
+            int end = line.indexOf(' ');
+            good(s + " the word itself", line);
+            for (int i = 0; i < end; i++) fault(s, "1 0", line.substring(0, i) + "x" + line.substring(i + 1));
+            fault(s + " longer", "1 0", line.substring(0, end) + "s" + line.substring(end));
+            fault(s + " shorter", "1 0", line.substring(0, end - 1) + line.substring(end));
+        }
+        for (String word : new String[] {"blue", "beside", "row", "day", "skill", "left"}) {
+            good("'VALUES of a CELL'", "dyes " + word + ";");
+            for (int i = 0; i < word.length(); i++) {
+                fault("'any word .. that is no VALUE'", "3 5", "dyes " + word.substring(0, i) + "x" + word.substring(i + 1) + ";");
+            }
+            fault("'any word .. that is no VALUE', longer", "3 5", "dyes " + word + "s;");
+            fault("'any word .. that is no VALUE', shorter", "3 5", "dyes " + word.substring(1) + ";");
+        }
+        for (String word : new String[] {"and", "or"}) {
+            good("'AND ('or' AND)*', 'NOT ('and' NOT)*'", "dyes 1 " + word + " 1;");
+            for (int i = 0; i < word.length(); i++) {
+                fault(s, "1 7", "dyes 1 " + word.substring(0, i) + "x" + word.substring(i + 1) + " 1;");
+            }
+        }
+        fault("'any word .. that is no VALUE'", "3 5", "dyes xot 1;");
+        fault("'any word .. that is no VALUE'", "3 5", "dyes nox 1;");
+    }
+
+    /** What stands on the tape behind the first n bytes does not count, though it would go on with a word or a NUMBER. */
+    private static void firstBytes() {
+        String s = "P3 'The tape's first n bytes'";
+        String text = "knobs 99;dyes blue;";
+        int[] faults = {0, 1, 1, 1, 1, 1, 1, 1, 1, 0, 1, 1, 1, 1, 1, 3, 3, 3, 1, 0};
+        int[] places = {-1, 0, 0, 0, 0, 5, 6, 7, 8, -1, 9, 9, 9, 13, 14, 14, 14, 14, 18, -1};
+        for (int n = 0; n < faults.length; n++) {
+            int first = n;
+            BlueBag x = new BlueBag();
+            Due.feed(x, text);
+            DUE.is(s + ", " + n + " of: " + text, faults[n], () -> x.coast(first));
+            DUE.is(s + ", " + n + " of: " + text + " its place", places[n], x::fault);
+        }
+        BlueBag y = new BlueBag();
+        Due.feed(y, "dyes 1234567;");
+        DUE.is(s + ", a NUMBER cut to 4 digits", 1, () -> y.coast(9));
+        DUE.is(s + ", a NUMBER cut to 4 digits, its place", 9, y::fault);
+    }
+
     private static void lines() {
         String s = "'COAST: LINE*'";
         good(s + " none", "");
@@ -486,6 +552,9 @@ public final class EdgeTextTest {
         mostBytes();
         highestFirst();
         tokens();
+        noTokens();
+        otherWords();
+        firstBytes();
         lines();
         exprWorth();
         values();
